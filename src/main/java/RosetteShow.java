@@ -862,7 +862,7 @@ public final class RosetteShow {
         }
     }
 
-    /** How the show stands behind the latest WEEK that was run. */
+    /** How the show stands behind the latest WEEK that was run; of later ones nothing may be asked. */
     private static final class Year {
         final int[] looks = new int[MOST_THINGS];
         final int[] colours = new int[MOST_THINGS];
@@ -889,9 +889,6 @@ public final class RosetteShow {
                 looks[t] = plan.looks[t];
                 colours[t] = 0;
                 firsts[t] = 0;
-            }
-            for (int i = 0; i < placed.length; i++) {
-                placed[i] = NONE;
             }
         }
 

@@ -34,6 +34,13 @@ final class ChanceTests {
         chance(x, 5, 0, 121, 256);
         chance(x, 8, 1, 3, 4);
         Due.is("EVENTS are as they were", x.at(0, 1, 0), 8);
+        // Groomed in WEEK 5 the other one has 15 of 5 WEEKS ahead against it, and 7 WEEKS to come.
+        x = Due.show("s50;s41", "c15", "");
+        x.event(0, 5, 1);
+        chance(x, 3, 1, 3, 16);
+        x.back();
+        x.event(0, 6, 1);
+        chance(x, 3, 1, 0, 1);
     }
 
     private static void longRows() {

@@ -116,7 +116,20 @@ final class PlanTests {
         x.event(1, 0, 1);
         x.event(1, 1, 1);
         x.event(1, 2, 1);
-        spared("the second of like ones", x, 1, 2, -1);
+        spared("the first that is of use", x, 1, 2, -1);
+        x = Due.show("w50;s95", "c14", "");
+        x.event(0, 3, 0);
+        x.event(0, 4, 0);
+        spared("the first of two", x, 1, 0, -1);
+        x.event(0, 5, 0);
+        spared("two from the first on", x, 2, 0, 1);
+        // Once FIRST, the wall has as much as the street and is the least: the street may not be KEPT in at all.
+        x = Due.show("w60;s75", "c14", "");
+        x.event(2, 0, 0);
+        x.event(2, 0, 0);
+        x.event(1, 0, 1);
+        x.event(1, 1, 1);
+        spared("the last two", x, 2, 2, 3);
     }
 
     private static void wrongNumbers() {

@@ -92,6 +92,9 @@ final class SeenTests {
         x.forget();
         x.seen(1, 1, 0);
         Due.is("the judge of WEEK 1", x.tastes(1), 2);
+        x.forget();
+        x.seen(11, 1, 0);
+        Due.is("the judge of the last WEEK", x.tastes(0), 2);
     }
 
     private static void asking() {
@@ -111,6 +114,15 @@ final class SeenTests {
         Due.is("nothing more to learn", x.ask(0), 0);
         x.seen(3, 0, 1);
         Due.is("none is left", x.ask(0), 0);
+        x = Due.show("s50;s81", "c15", "");
+        x.event(1, 3, 1);
+        x.event(0, 2, 0);
+        // Till WEEK 1 8 of 10 are SECOND; groomed, 0 to 5 are so and 6 to 9 are FIRST.
+        Due.is("4 and 6 are better than 2 and 8", x.ask(0), 2);
+        x.seen(0, 0, 1);
+        Due.is("of 0 to 7, 6 and 2 are better than 8", x.ask(0), 2);
+        x.seen(2, 0, 1);
+        Due.is("all are alike then", x.ask(0), 0);
         RosetteShow y = Due.show("c50;s71;s62;s53", "w15", "33");
         // No judge till WEEK 2: all alike there, 10; then 0 to 4 not placed, 5 THIRD, 6 SECOND by being the least, 7 on FIRST.
         Due.is("when a judge is there", y.ask(0), 2);

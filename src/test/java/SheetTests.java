@@ -28,11 +28,13 @@ final class SheetTests {
         Due.is("0 items", x.sheet(0, 0, 0), 0);
         Due.is("60 items", x.sheet(3, 2, 60), 60);
         Due.is("lay", x.lay(3, 2, 59, 8), 1);
+        Due.is("lay", x.lay(3, 2, 0, 8), 1);
         Due.is("a refused one stays", x.sheet(3, 2, 61), -2);
         Due.is("a refused one stays", x.sheet(3, 2, -3), -15);
         Due.is("get", x.get(3, 2, 59), 8);
         Due.is("a new row", x.sheet(3, 2, 60), 60);
         Due.is("is 0 at first", x.get(3, 2, 59), 0);
+        Due.is("is 0 at first", x.get(3, 2, 0), 0);
         Due.is("another FORM", x.sheet(3, 1, 5), 5);
         Due.is("get of it", x.get(3, 1, 4), 0);
     }
