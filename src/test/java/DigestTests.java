@@ -28,6 +28,21 @@ final class DigestTests {
         y.event(0, 4, 0);
         Due.is("one to SPARE", y.spare(0), 1);
         compare("with one to SPARE", y);
+        // By how many sixteenths, by what seed and of how many WEEKS is seen only where that makes a difference.
+        RosetteShow groomed = Due.show("s50;s41;w90;w80;w70;w60", "c14", "");
+        groomed.event(0, 0, 1);
+        groomed.event(1, 0, 2);
+        compare("with chances", groomed);
+        for (String things : new String[] {"w90;w80;w70;w60", "s50;s51;s52;s53", "s53;s52;s51;s50", "w50;w51;w52;w53", "s50;w41"}) {
+            compare("by one JUDGE: " + things, Due.show(things, "c14", ""));
+            compare("by two: " + things, Due.show(things, "c10;c11", ""));
+            compare("by four: " + things, Due.show(things, "c10;c11;c12;c13", ""));
+            compare("by walls: " + things, Due.show(things, "w10;w91;c12;c13", ""));
+            compare("by other walls: " + things, Due.show(things, "w92;w51;s90;c13", ""));
+        }
+        RosetteShow chancy = Due.show("s50;s41", "c14", "");
+        chancy.event(0, 0, 1);
+        compare("with a chance", chancy);
         long before = x.digest();
         x.get(0, 0, 0);
         x.sheet(0, 0, 9);
@@ -66,8 +81,9 @@ final class DigestTests {
     }
 
     private static void compare(String name, RosetteShow x) {
+        long first = x.digest();
         long want = byOtherCalls(x);
-        Due.is(name, x.digest(), want);
+        Due.is(name, first, want);
         Due.is(name + " again", x.digest(), want);
         Due.is(name + " by other calls again", byOtherCalls(x), want);
     }
