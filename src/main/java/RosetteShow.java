@@ -226,16 +226,7 @@ public final class RosetteShow {
         if (bits == NONE) {
             return NONE;
         }
-        int many = Integer.bitCount(bits);
-        if (i == NONE) {
-            return many;
-        }
-        if (i >= many) {
-            return NONE;
-        }
-        // Of two bits at most, the lower is told first.
-        int bit = i == many - 1 ? Integer.highestOneBit(bits) : Integer.lowestOneBit(bits);
-        return Integer.numberOfTrailingZeros(bit);
+        return i == NONE ? Integer.bitCount(bits) : numberOfBit(bits, i);
     }
 
     // ---- seen, chance, years
@@ -597,6 +588,20 @@ public final class RosetteShow {
                 if (standsWithout(1 << e | 1 << f)) {
                     return 1 << e | 1 << f;
                 }
+            }
+        }
+        return NONE;
+    }
+
+    /** The number of the i-th bit that is set, the lowest first; NONE if there are not so many. */
+    private static int numberOfBit(int bits, int i) {
+        int ahead = 0;
+        for (int e = 0; e < MOST_NOTES; e++) {
+            if ((bits >> e & 1) == 1) {
+                if (ahead == i) {
+                    return e;
+                }
+                ahead++;
             }
         }
         return NONE;
